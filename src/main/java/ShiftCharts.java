@@ -550,19 +550,32 @@ public final class ShiftCharts {
         }
 
         long gainAbove(int t) {
-            long apart = (long) length * total(t) - (long) t * total(length);
-            return apart * apart;
+            return squareApart(t, total(t), total(length));
         }
 
         long gainBelow(int t) {
             return (long) t * (length - t);
         }
 
+        private long squareApart(int t, int first, int all) {
+            long apart = (long) length * first - (long) t * all;
+            return apart * apart;
+        }
+
         int changePlace() {
-            if (length < 2) return NOWHERE;
-            int best = 1;
-            for (int t = 2; t < length; t++) {
-                if (gainAbove(t) * gainBelow(best) > gainAbove(best) * gainBelow(t)) best = t;
+            int all = total(length);
+            int first = 0;
+            int best = NOWHERE;
+            long bestAbove = -1;
+            long bestBelow = 1;
+            for (int t = 1; t < length; t++) {
+                first += values[t - 1];
+                long above = squareApart(t, first, all);
+                long below = gainBelow(t);
+                if (above * bestBelow <= bestAbove * below) continue;
+                best = t;
+                bestAbove = above;
+                bestBelow = below;
             }
             return best;
         }
