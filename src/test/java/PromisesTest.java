@@ -189,6 +189,7 @@ public final class PromisesTest {
         due("9: the last was done", x.at(0, 2), -9);
         due("9: d 0 is STEP -2", type(x, "d03"), 1);
         due("9: STEP -2", x.weighs(-2), 3);
+        due("9: a WEIGHT that was 0", type(x, "d00;d02"), 2);
         due("9: -0, 00", type(x, "v0-0;v000;v0-05"), 3);
         due("9: -05", x.at(0, 5), -5);
         faults();
@@ -255,6 +256,8 @@ public final class PromisesTest {
 
         int[] latest = {-5, 1, 1, 3, 3, 5, 5};
         for (int i = 0; i < 7; i++) due("13: " + i, x.latest(2, i), latest[i]);
+        x.alarms(0);
+        due("13: of this STREAM", x.latest(2, 6), 5);
         due("13: beyond", x.latest(2, MOST), 5);
         due("13: below", x.latest(2, -1), -1);
         due("13: no STREAM", x.latest(4, 0), -1);
@@ -332,6 +335,13 @@ public final class PromisesTest {
         x.set(1, 0, 0);
         int[] down = {3, 2, 1, 1, 28};
         for (int what = 0; what < 5; what++) due("14: DOWN " + what, x.joint(what), down[what]);
+        ShiftCharts y = with(0, 9);
+        come(y, 1, 0, 9);
+        int[] one = {1, 0, -5, -5, -5};
+        for (int what = 0; what < 5; what++) due("14: one VALUE " + what, y.joint(what), one[what]);
+        y.set(0, 3, 3);
+        int[] seven = {1, 1, 0, 0, 7};
+        for (int what = 0; what < 5; what++) due("14: STREAM 0 too " + what, y.joint(what), seven[what]);
         due("14: NONE", x.joint(5), -1);
         due("14: NONE below", x.joint(-1), -1);
     }
@@ -362,6 +372,9 @@ public final class PromisesTest {
         due("16: 0 is 0 by 1", x.gain(1, 1, 1), 1);
         come(x, 2, 1, 0, 0, 1);
         due("15: of several the least", x.change(2), 1);
+        come(x, 3, 0, -1, 1);
+        due("15: the last place", x.change(3), 2);
+        due("15: below the line too", with(0, 1, 1, 5, 5, 5).change(0), 2);
         due("15: NONE", x.change(4), -1);
         due("15: NONE below", x.change(-1), -1);
         ShiftCharts y = new ShiftCharts();
@@ -542,6 +555,9 @@ public final class PromisesTest {
         due("25: below", x.odds(0, 1), 2);
         due("25: none above", x.odds(1, 0), 0);
         due("25: none below", x.odds(1, 1), 1);
+        x.value(1, -7);
+        due("26: of one VALUE", x.mean(1, 0), -7);
+        x.drop(1);
         x.value(0, 20);
         due("25: surely", x.odds(0, 0), 1);
         due("25: surely, below", x.odds(0, 1), 1);
@@ -587,6 +603,10 @@ public final class PromisesTest {
         due("28: NONE below", x.ends(-1), -1);
         planEdges(x);
         planWithoutRoom();
+        ShiftCharts y = with(0, 5, 5, 5, 5);
+        y.set(0, 0, 1);
+        y.set(0, 3, 12);
+        due("28: by its KIND and LIMIT", y.ends(1), 1);
     }
 
     private static void planEdges(ShiftCharts x) {
@@ -625,6 +645,9 @@ public final class PromisesTest {
         due("30: as told", x.looked(), -5);
         due("29: second", x.book(0, 0), 2);
         due("29: third", x.book(1, 40), 3);
+        x.drop(1);
+        due("30: the first row", x.looked(), 0);
+        x.value(1, 9);
         due("30: the third", x.looked(), 2);
         due("29: fourth", x.book(2, 1), 4);
         due("30: the first of them", x.looked(), 2);
@@ -713,6 +736,36 @@ public final class PromisesTest {
         x.drop(0);
         due("33: the new one", x.undo(), 3);
         due("33: its VALUE", x.at(0, 2), 5);
+        rowsOfImages();
+    }
+
+    private static void rowsOfImages() {
+        ShiftCharts x = with(0, 5, 0, -5);
+        x.set(0, 3, 3);
+        x.see(0, 2);
+        x.see(0, 0);
+        x.plan(3, 1);
+        x.plan(0, 20);
+        x.book(0, 2);
+        x.book(2, 0);
+        x.image();
+        x.set(0, 3, 12);
+        x.see(-1, 0);
+        x.see(3, 9);
+        x.see(3, 9);
+        x.plan(-1, 0);
+        x.plan(2, 5);
+        x.plan(2, 5);
+        x.book(-1, 0);
+        x.book(3, 9);
+        x.book(3, 9);
+        x.undo();
+        due("33: LIMIT", x.of(0, 3), 3);
+        due("33: SEEN fits", x.fits(0, 0), 4);
+        due("33: SEEN of no other", x.fits(3, 0), 12);
+        due("33: ENDS of the PLAN", x.ends(0), 2);
+        due("33: ENDS, the first", x.ends(1), 1);
+        due("33: the BOOK's rows", x.looked(), -5);
     }
 
     private static void counts() {
