@@ -154,6 +154,11 @@ public final class EdgesOfStreamsTest {
         for (int s = 0; s < 4; s++) {
             int stream = s;
             Edges.keeps(Edges.FRESH, "drop(" + s + ")", -3, x -> x.drop(stream));
+            Edges.keeps(() -> {
+                ShiftCharts x = new ShiftCharts();
+                Edges.set(x, stream, 4, -3, 5, 9);
+                return x;
+            }, "drop(" + s + ") of one that is set up", -3, x -> x.drop(stream));
         }
         Edges.keeps(Edges.FULL, "drop(1)", -3, x -> x.drop(1));
     }

@@ -402,6 +402,16 @@ public final class EdgesOfSumsTest {
         joint(x, 3, 1, 2, 0, 19);
     }
 
+    private static void p14_theFewestInAnyStream() {
+        for (int few = 0; few < 4; few++) {
+            ShiftCharts x = new ShiftCharts();
+            for (int s = 0; s < 4; s++) {
+                for (int i = 0; i < (s == few ? 2 : 5); i++) x.value(s, 0);
+            }
+            joint(x, 2, 0, -5, -5, -5);
+        }
+    }
+
     private static void p14_fortyPlacesOfFour() {
         ShiftCharts x = new ShiftCharts();
         for (int s = 0; s < 4; s++) {
@@ -497,6 +507,13 @@ public final class EdgesOfSumsTest {
         Edges.due("4/3, 0, 4/3", Edges.with(0, 1, 0, 0, 1).change(0), 1);
         Edges.due("0, 25/6, 25/6, 0", Edges.with(0, 0, 1, 0, -1, 0).change(0), 2);
         Edges.due("forty alike", Edges.many(0, 40, -7).change(0), 1);
+    }
+
+    private static void p15_theGreatestBehindALesserOne() {
+        // GAINs 125, 2, 121, 480 1/2, 1656 1/5.
+        Edges.due("the last", Edges.with(0, 9, 0, 0, 0, 0, 20).change(0), 5);
+        // The other way round: 1656 1/5 is the first.
+        Edges.due("the first", Edges.with(0, 20, 0, 0, 0, 0, 9).change(0), 1);
     }
 
     private static void p15_firstAndLastPlace() {
@@ -742,6 +759,17 @@ public final class EdgesOfSumsTest {
         // Up by 1 or down by 3 to 0 at once, alike likely.
         runs(chain(1, 4, 1, 0, 0, 0, 1), 0, 30, 1);
         runs(chain(1, 4, 1, 0, 0, 0, 1), 3, 16, 1);
+    }
+
+    private static void p19_asTheDiceAreNow() {
+        ShiftCharts x = chain(1, 4, 1, 1, 1, 1, 1);
+        runs(x, 0, 375, 1);
+        x.weight(2, 0);
+        for (int level = 0; level < 4; level++) Edges.due("without STEP 2 now", x.run(0, level, 0), NO);
+        x.weight(2, 1);
+        runs(x, 0, 375, 1);
+        x.set(0, 2, 2);
+        Edges.due("by SLACK 2 now", x.run(0, 3, 0), NO);
     }
 
     private static void p19_belowLevel0Is0() {
